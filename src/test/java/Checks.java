@@ -1,0 +1,46 @@
+/** Counts what a test finds; a test ends with finish(). */
+final class Checks {
+    interface Call {
+        Object make();
+    }
+
+    private final String name;
+    private int done = 0;
+    private int wrong = 0;
+
+    Checks(String name) {
+        this.name = name;
+    }
+
+    void equal(String what, Object got, Object want) {
+        done++;
+        if (!want.equals(got)) {
+            wrong++;
+            System.out.println(name + ": " + what + " answered " + got + ", due is " + want);
+        }
+    }
+
+    /** The call answers what is due, be it a value or the class of an exception. */
+    void answer(String what, Call call, Object want) {
+        equal(what, answerOf(call), want);
+    }
+
+    static Object answerOf(Call call) {
+        try {
+            return call.make();
+        } catch (RuntimeException e) {
+            return e.getClass();
+        }
+    }
+
+    int wrongs() {
+        return wrong;
+    }
+
+    void finish() {
+        System.out.println(name + ": " + done + " checks, " + wrong + " wrong");
+        if (wrong != 0 || done == 0) {
+            System.exit(1);
+        }
+    }
+}
