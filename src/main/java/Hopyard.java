@@ -880,10 +880,11 @@ public final class Hopyard {
 
         /** Leaves the best order in best. */
         int findBest(List<Recipe> recipes, int today) {
+            // The day after the present forecast: an order that is worse than the present one is given up at once.
+            bestDay = forecastOf(recipes, today) + 1;
             resetSlots(today);
             copySorted(recipes, rest);
             tried.clear();
-            bestDay = Integer.MAX_VALUE;
             search(this, 0, today);
             return bestDay;
         }

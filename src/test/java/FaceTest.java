@@ -107,7 +107,7 @@ public final class FaceTest {
     private static void languageIsKept(String program) {
         for (String word : List.of("->", "::", "catch", "finally", "synchronized", "assert", "package ", "System.",
                 "Math.random", "hashCode", "toString", ".equals", "instanceof", "Exact(", "Object", "static {",
-                "Collections", "Optional", "Stream", "\" +", "+ \"")) {
+                "Collections", "Integer.", "Character", "Arrays", "Optional", "Stream", "\" +", "+ \"")) {
             CHECKS.equal("the program holds '" + word + "'", program.contains(word), false);
         }
         Matcher imports = Pattern.compile("import ([\\w.*]+);").matcher(program);

@@ -1,3 +1,4 @@
+import java.util.Arrays;
 import java.util.NoSuchElementException;
 
 /** Promise by promise: ordinary inputs, the edges that the document names, and wrong inputs. */
@@ -31,6 +32,7 @@ public final class PromiseTest {
         forecast();
         forecastOfEachState();
         bestOrder();
+        bestOrderIsThatOfAllOrders();
         improve();
         order();
         blend();
@@ -528,14 +530,20 @@ public final class PromiseTest {
         x.withdraw(0);
         call("an empty queue", x::forecast, NONE);
 
-        Hopyard y = with("ff");
+        Hopyard y = with("fftt");
         y.addRecipe(0, 3, 0);
         y.addRecipe(1, 3, 0);
-        enqueueAll(y, 0, 1, 1);
-        is("of several the lowest number: behind strain 0", y.forecast(), 9);
-        y.withdraw(2);
+        y.brew(0, 0);
+        y.brew(1, 1);
+        y.pass(9);
+        is("both clean", "" + y.state(0) + y.state(1), "cc");
+        y.enqueue(1);
+        is("of several the lowest number, behind another strain", y.forecast(), 9 + 4);
+        y.withdraw(0);
         y.enqueue(0);
-        is("of several the lowest number: behind its own strain", y.forecast(), 8);
+        is("of several the lowest number, behind its own strain", y.forecast(), 9 + 3);
+        y.enqueue(0);
+        is("then the next one", y.forecast(), 9 + 4);
     }
 
     private static void forecastOfEachState() {
@@ -606,6 +614,80 @@ public final class PromiseTest {
         is("six, best as by trying", y.bestForecast(), y.bestForecastByTrying());
         is("six, best", y.bestForecast(), 14);
         is("six, as they stand", y.forecast(), 22);
+    }
+
+    private static final String[] SHOPS = {"f", "ff", "fff", "fffff"};
+    private static final int[][] QUEUES = {{0, 1, 2, 3, 4, 0}, {4, 4, 0, 1, 0, 1}, {3, 1, 2}, {2, 2, 2, 2}, {0, 4},
+        {1, 0, 3, 3, 0, 1}, {4, 3, 2, 1, 0}, {0, 0, 1, 1, 2, 2}, {3, 2, 3, 2, 4, 4}};
+    private static final int[][] RECIPES = {{0, 1, 2, 7, 1, 3, 3, 2, 0, 14}, {0, 5, 0, 4, 1, 3, 1, 2, 2, 1},
+        {3, 9, 2, 2, 3, 2, 2, 9, 1, 4}};
+
+    /** What the queue's own forecasts say, order by order. */
+    private static void bestOrderIsThatOfAllOrders() {
+        for (String shop : SHOPS) {
+            for (int[] recipes : RECIPES) {
+                for (int[] row : QUEUES) {
+                    String what = "best of " + Arrays.toString(row) + " in " + shop;
+                    Hopyard x = with(shop);
+                    for (int i = 0; i < 10; i += 2) {
+                        x.addRecipe(recipes[i], recipes[i + 1], 0);
+                    }
+                    x.brew(row[0], 0);
+                    enqueueAll(x, row);
+                    int before = x.forecast();
+                    Best best = new Best(x);
+                    best.tryFrom("", row.clone());
+                    is(what, x.bestForecast(), best.day);
+                    is(what + ", by trying", x.bestForecastByTrying(), best.day);
+                    is(what + ", gained", x.improve(), before - best.day);
+                    is(what + ", its order", queueOf(x), best.order);
+                    is(what + ", its forecast", x.forecast(), best.day);
+                }
+            }
+        }
+    }
+
+    /** Puts the queue into one order after the other, and leaves it in the one that it had. */
+    private static final class Best {
+        private final Hopyard x;
+        private int day = Integer.MAX_VALUE;
+        private String order = "";
+
+        private Best(Hopyard x) {
+            this.x = x;
+        }
+
+        private void tryFrom(String head, int[] rest) {
+            if (rest.length == 0) {
+                look(head);
+            }
+            for (int i = 0; i < rest.length; i++) {
+                int[] others = new int[rest.length - 1];
+                System.arraycopy(rest, 0, others, 0, i);
+                System.arraycopy(rest, i + 1, others, i, rest.length - 1 - i);
+                tryFrom(head + rest[i], others);
+            }
+        }
+
+        private void look(String row) {
+            String kept = queueOf(x);
+            refill(row);
+            int found = x.forecast();
+            refill(kept);
+            if (found < day || found == day && row.compareTo(order) < 0) {
+                day = found;
+                order = row;
+            }
+        }
+
+        private void refill(String row) {
+            while (x.queued() > 0) {
+                x.withdraw(0);
+            }
+            for (char recipe : row.toCharArray()) {
+                x.enqueue(recipe - '0');
+            }
+        }
     }
 
     // Promise 16.
@@ -895,6 +977,17 @@ public final class PromiseTest {
         is("then the next, by a second crew", "" + x.state(0) + x.state(1) + x.state(2), "dgg");
         x.pass(1);
         is("then the last one", "" + x.state(0) + x.state(1) + x.state(2), "ggc");
+
+        Hopyard z = with("fftt");
+        z.addRecipe(0, 1, 0);
+        z.brew(0, 0);
+        z.brew(0, 1);
+        z.pass(1);
+        is("one crew, one vessel", "" + z.state(0) + z.state(1), "gd");
+        z.pass(1);
+        is("the other one waits for the crew", "" + z.state(0) + z.state(1), "gd");
+        z.pass(1);
+        is("and is taken on the day on which the first is clean", "" + z.state(0) + z.state(1), "cg");
 
         Hopyard y = with("fftt");
         y.addRecipe(0, 1, 0);
