@@ -5,18 +5,27 @@ final class Checks {
     }
 
     private final String name;
+    private final boolean tells;
     private int done = 0;
     private int wrong = 0;
 
     Checks(String name) {
+        this(name, true);
+    }
+
+    /** Tells, if it is told to, each wrong answer. */
+    Checks(String name, boolean tells) {
         this.name = name;
+        this.tells = tells;
     }
 
     void equal(String what, Object got, Object want) {
         done++;
         if (!want.equals(got)) {
             wrong++;
-            System.out.println(name + ": " + what + " answered " + got + ", due is " + want);
+            if (tells) {
+                System.out.println(name + ": " + what + " answered " + got + ", due is " + want);
+            }
         }
     }
 
@@ -34,6 +43,10 @@ final class Checks {
             String thrower = trace.length == 0 ? "the machine" : trace[0].getClassName();
             return thrower.equals("Hopyard") || thrower.equals("Model") ? e.getClass() : e + ", thrown by " + thrower;
         }
+    }
+
+    int done() {
+        return done;
     }
 
     int wrongs() {
