@@ -24,6 +24,7 @@ public final class FaceTest {
         faceIsTheDocuments(document);
         noOtherMemberIsSeen();
         languageIsKept(program);
+        methodsAreShort(program);
         CHECKS.finish();
     }
 
@@ -120,5 +121,23 @@ public final class FaceTest {
                 CHECKS.equal("a sign of the program", (int) sign, "one of 1 to 126");
             }
         }
+    }
+
+    /** From the line that opens a method to the line with its closing brace, which stands below it. */
+    private static void methodsAreShort(String program) {
+        List<String> lines = List.of(program.split("\n"));
+        int methods = 0;
+        for (int from = 0; from < lines.size(); from++) {
+            Matcher opened = Pattern.compile("( {4}| {8})(?! )[^=]*\\(.*").matcher(lines.get(from));
+            if (opened.matches() && !lines.get(from).matches(" *(if|for|while|\\*|//).*|.*;")) {
+                int to = from;
+                while (to < lines.size() && !lines.get(to).equals(opened.group(1) + "}")) {
+                    to++;
+                }
+                CHECKS.equal("'" + lines.get(from).strip() + "' has sixty lines at the most", to - from < 60, true);
+                methods++;
+            }
+        }
+        CHECKS.equal("methods were found", methods > 80, true);
     }
 }
